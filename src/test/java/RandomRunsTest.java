@@ -84,11 +84,7 @@ public final class RandomRunsTest {
     }
 
     private int told(Check.Call call) {
-        try {
-            return (int) call.answer();
-        } catch (RuntimeException e) {
-            return 0;
-        }
+        return (int) toldLong(call);
     }
 
     private void dumpOrRestore(int dice) {
