@@ -9,14 +9,29 @@ final class Check {
     }
 
     private static int wrong = 0;
+    private static String place = "";
 
     private Check() {
+    }
+
+    /**
+     * The test of one sentence. The words are the document's own, so that they can be looked for
+     * there; they stand before each answer that is wrong.
+     */
+    static void sentence(String where, String words, Runnable test) {
+        place = where + " \"" + words + "\": ";
+        try {
+            test.run();
+        } catch (RuntimeException e) {
+            same("a call of the test itself", "throws." + e.getClass().getSimpleName(), "no exception");
+        }
+        place = "";
     }
 
     static void same(String what, Object got, Object want) {
         if (!want.equals(got)) {
             wrong++;
-            System.out.println(what + ": answered " + got + ", due is " + want);
+            System.out.println(place + what + ": answered " + got + ", due is " + want);
         }
     }
 

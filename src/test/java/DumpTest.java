@@ -20,18 +20,6 @@ public final class DumpTest {
         Check.end();
     }
 
-    /** The first octets of a BLOCK, and noughts behind them. */
-    private static void block(TapeVault x, int volume, int block, int... octets) {
-        StringBuilder got = new StringBuilder();
-        StringBuilder want = new StringBuilder();
-        for (int k = 0; k < 64; k++) {
-            long word = x.tape(volume, block, k / 8);
-            got.append(' ').append(word >>> (56 - 8 * (k % 8)) & 255);
-            want.append(' ').append(k < octets.length ? octets[k] : 0);
-        }
-        Check.same("BLOCK " + block + " of VOLUME " + volume, got.toString(), want.toString());
-    }
-
     private static void promise8Levels() {
         TapeVault x = new TapeVault();
         for (int level : new int[] {-1, 10, Integer.MIN_VALUE, Integer.MAX_VALUE}) {
@@ -72,18 +60,18 @@ public final class DumpTest {
         x.write(2, 8, 0x1112131415161718L);
         x.cut(2, 9);
         Check.gives("dump(4)", 0, () -> x.dump(4));
-        block(x, 0, 0, 76, 0, 0);
-        block(x, 0, 1, 72, 4, 0, 0, 0, 0, 0, 6, 0, 0, 0, 4);
-        block(x, 0, 2, 77, 0xF0);
-        block(x, 0, 3, 73, 4, 0, 2, 1, 2, 2, 2, 3, 1);
-        block(x, 0, 4, 78, 0, 2, 0, 0, 0, 0, 1, 0, 0, 0, 1);
-        block(x, 0, 5, 0x12, 0x34, 1);
-        block(x, 0, 6, 78, 1, 2, 0x12, 0x34, 0, 0, 2, 0, 0, 0, 3);
-        block(x, 1, 0, 76, 0, 1);
-        block(x, 1, 1, 0, 20, 3, 1, 44, 2);
-        block(x, 1, 2, 78, 2, 1, 1, 44, 1, 0, 9, 0, 0, 0, 6);
-        block(x, 1, 3, 1, 2, 3, 4, 5, 6, 7, 8, 0x11);
-        block(x, 1, 4, 78, 3, 2, 0, 20, 1, 0, 0, 0, 0, 0, 3);
+        Scenes.block(x, 0, 0, 76, 0, 0);
+        Scenes.block(x, 0, 1, 72, 4, 0, 0, 0, 0, 0, 6, 0, 0, 0, 4);
+        Scenes.block(x, 0, 2, 77, 0xF0);
+        Scenes.block(x, 0, 3, 73, 4, 0, 2, 1, 2, 2, 2, 3, 1);
+        Scenes.block(x, 0, 4, 78, 0, 2, 0, 0, 0, 0, 1, 0, 0, 0, 1);
+        Scenes.block(x, 0, 5, 0x12, 0x34, 1);
+        Scenes.block(x, 0, 6, 78, 1, 2, 0x12, 0x34, 0, 0, 2, 0, 0, 0, 3);
+        Scenes.block(x, 1, 0, 76, 0, 1);
+        Scenes.block(x, 1, 1, 0, 20, 3, 1, 44, 2);
+        Scenes.block(x, 1, 2, 78, 2, 1, 1, 44, 1, 0, 9, 0, 0, 0, 6);
+        Scenes.block(x, 1, 3, 1, 2, 3, 4, 5, 6, 7, 8, 0x11);
+        Scenes.block(x, 1, 4, 78, 3, 2, 0, 20, 1, 0, 0, 0, 0, 0, 3);
         Check.gives("BLOCKS", 12, () -> x.count(4));
     }
 
@@ -98,13 +86,13 @@ public final class DumpTest {
         x.write(3, 0, -1L);
         x.remove(4);
         x.dump(7);
-        block(x, 0, at, 72, 7, 0, 1, 0, 0, 0, 6, 0, 1, 0, 2);
-        block(x, 0, at + 1, 77, 0xF0);
-        block(x, 0, at + 2, 73, 2, 0, 2, 3, 2);
-        block(x, 0, at + 3, 78, 0, 2, 0, 0, 0, 0, 1, 0, 0, 0, 6);
-        block(x, 0, at + 4, 0, 1, 1);
-        block(x, 0, at + 5, 78, 3, 1, 0, 3, 1, 0, 8, 0, 0, 0, 5);
-        block(x, 0, at + 6, 255, 255, 255, 255, 255, 255, 255, 255);
+        Scenes.block(x, 0, at, 72, 7, 0, 1, 0, 0, 0, 6, 0, 1, 0, 2);
+        Scenes.block(x, 0, at + 1, 77, 0xF0);
+        Scenes.block(x, 0, at + 2, 73, 2, 0, 2, 3, 2);
+        Scenes.block(x, 0, at + 3, 78, 0, 2, 0, 0, 0, 0, 1, 0, 0, 0, 6);
+        Scenes.block(x, 0, at + 4, 0, 1, 1);
+        Scenes.block(x, 0, at + 5, 78, 3, 1, 0, 3, 1, 0, 8, 0, 0, 0, 5);
+        Scenes.block(x, 0, at + 6, 255, 255, 255, 255, 255, 255, 255, 255);
         Check.gives("BLOCKS", at + 7, () -> x.count(4));
     }
 
@@ -114,8 +102,8 @@ public final class DumpTest {
         x.dump(0);
         int at = x.count(4);
         Check.gives("dump(1)", 1, () -> x.dump(1));
-        block(x, 0, at, 72, 1, 0, 1, 0, 0, 0, 1, 0, 1, 0, 0);
-        block(x, 0, at + 1, 77, 0xC0);
+        Scenes.block(x, 0, at, 72, 1, 0, 1, 0, 0, 0, 1, 0, 1, 0, 0);
+        Scenes.block(x, 0, at + 1, 77, 0xC0);
         Check.gives("no INDEX", at + 2, () -> x.count(4));
     }
 
@@ -131,7 +119,7 @@ public final class DumpTest {
         int[] map = new int[33];
         java.util.Arrays.fill(map, 255);
         map[0] = 77;
-        block(x, 0, 2, map);
+        Scenes.block(x, 0, 2, map);
         int[] index = new int[64];
         index[0] = 73;
         index[1] = 31;
@@ -139,24 +127,24 @@ public final class DumpTest {
             index[2 + 2 * i] = i;
             index[3 + 2 * i] = i == 0 ? 14 : 1;
         }
-        block(x, 0, 3, index);
-        block(x, 0, 11, 73, 8, 248, 1, 249, 1, 250, 1, 251, 1, 252, 1, 253, 1, 254, 1, 255, 1);
+        Scenes.block(x, 0, 3, index);
+        Scenes.block(x, 0, 11, 73, 8, 248, 1, 249, 1, 250, 1, 251, 1, 252, 1, 253, 1, 254, 1, 255, 1);
         int[] entries = new int[63];
         for (int i = 0; i < 21; i++) {
             entries[3 * i] = 29746 + i >> 8;
             entries[3 * i + 1] = 29746 + i & 255;
             entries[3 * i + 2] = 255 - i;
         }
-        block(x, 0, 12, 78, 0, 2, 0, 0, 0, 0, 255, 0, 0, 0, 255);
-        block(x, 0, 13, entries);
-        block(x, 0, 25, 117, 46, 3, 117, 47, 2, 117, 48, 1);
-        block(x, 0, 26, 78, 1, 1, 117, 48, 0, 0, 0, 0, 0, 0, 1);
+        Scenes.block(x, 0, 12, 78, 0, 2, 0, 0, 0, 0, 255, 0, 0, 0, 255);
+        Scenes.block(x, 0, 13, entries);
+        Scenes.block(x, 0, 25, 117, 46, 3, 117, 47, 2, 117, 48, 1);
+        Scenes.block(x, 0, 26, 78, 1, 1, 117, 48, 0, 0, 0, 0, 0, 0, 1);
     }
 
     private static void promise8FileBlocks() {
         int[] sizes = {0, 1, 63, 64, 65, 128, 129, 511, 512};
         for (int size : sizes) {
-            TapeVault x = fileOf(size);
+            TapeVault x = Scenes.file(size);
             x.dump(0);
             int blocks = (size + 63) / 64;
             Check.gives("BLOCKS of " + size, 1 + 3 + 2 + 1 + blocks, () -> x.count(4));
@@ -168,21 +156,6 @@ public final class DumpTest {
                         () -> x.tape(0, 7 + at / 64, at % 64 / 8) >>> (56 - 8 * (at % 8)) & 255);
             }
         }
-    }
-
-    /** NODE 1 is a FILE whose octet k is k % 251 + 1. */
-    private static TapeVault fileOf(int size) {
-        TapeVault x = new TapeVault();
-        x.make(0, 1, false);
-        for (int at = 0; at < size; at += 8) {
-            long v = 0;
-            for (int k = at; k < at + 8; k++) {
-                v = v << 8 | k % 251 + 1;
-            }
-            x.write(1, at, v);
-        }
-        x.cut(1, size);
-        return x;
     }
 
     private static void promise8TooManyDumps() {
@@ -200,31 +173,15 @@ public final class DumpTest {
         Check.gives("the last one's number", 0x48000063, () -> x.tape(0, 397, 0) >>> 32);
     }
 
-    /** 0 with 255 FILES in it: a DUMP of all takes 280 BLOCKS, LABELS not counted. */
-    private static TapeVault fullTree(int blocks) {
-        TapeVault x = new TapeVault();
-        x.begin(blocks);
-        for (int n = 1; n < 256; n++) {
-            x.make(0, n, false);
-        }
-        return x;
-    }
-
-    private static void dumps(TapeVault x, int level, int times) {
-        for (int i = 0; i < times; i++) {
-            x.dump(level);
-        }
-    }
-
     private static void promise8TooManyBlocks() {
-        TapeVault x = fullTree(4);
-        dumps(x, 0, 10);
+        TapeVault x = Scenes.full(4);
+        Scenes.dumps(x, 0, 10);
         Check.gives("BLOCKS", 2800 + 934, () -> x.count(4));
         Check.fails("there would be 3080 + 1027", BOUNDS, () -> x.dump(0));
         Check.gives("nothing is written", 2800 + 934, () -> x.count(4));
         Check.gives("nor is it a DUMP", 10, () -> x.count(2));
         x.cut(1, 0);
-        dumps(x, 5, 50); // 4 BLOCKS each
+        Scenes.dumps(x, 5, 50); // 4 BLOCKS each
         Check.gives("BLOCKS are 4000", 4000, () -> x.count(4));
         Check.gives("VOLUMES are 1000", 1000, () -> x.count(3));
         Check.gives("LABEL of the last", 0x4C03E70000000000L, () -> x.tape(999, 0, 0));
@@ -238,21 +195,21 @@ public final class DumpTest {
     }
 
     private static void exactlyTheLimit() {
-        TapeVault x = fullTree(64);
-        dumps(x, 0, 14);
+        TapeVault x = Scenes.full(64);
+        Scenes.dumps(x, 0, 14);
         x.cut(1, 0);
         x.cut(2, 0);
-        dumps(x, 5, 3); // 5 BLOCKS each
+        Scenes.dumps(x, 5, 3); // 5 BLOCKS each
         Check.gives("3935 and 63 LABELS", 3998, () -> x.count(4));
         Check.gives("two more are 4000", 17, () -> x.dump(9));
         Check.gives("BLOCKS", 4000, () -> x.count(4));
     }
 
     private static void oneAboveTheLimit() {
-        TapeVault x = fullTree(64);
-        dumps(x, 0, 14);
+        TapeVault x = Scenes.full(64);
+        Scenes.dumps(x, 0, 14);
         x.cut(1, 0);
-        dumps(x, 5, 4); // 4 BLOCKS each
+        Scenes.dumps(x, 5, 4); // 4 BLOCKS each
         Check.gives("3936 and 63 LABELS", 3999, () -> x.count(4));
         Check.fails("two more would be 4001", BOUNDS, () -> x.dump(9));
         Check.gives("BLOCKS", 3999, () -> x.count(4));
@@ -271,8 +228,8 @@ public final class DumpTest {
         x.dump(1);
         Check.gives("it comes with what is behind it", 8, () -> x.count(4));
         Check.gives("VOLUMES", 2, () -> x.count(3));
-        block(x, 1, 0, 76, 0, 1);
-        block(x, 1, 1, 72, 1, 0, 1, 0, 0, 0, 0, 0, 1, 0, 0);
+        Scenes.block(x, 1, 0, 76, 0, 1);
+        Scenes.block(x, 1, 1, 72, 1, 0, 1, 0, 0, 0, 0, 0, 1, 0, 0);
     }
 
     private static void promise9Spoil() {

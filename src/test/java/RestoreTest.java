@@ -25,10 +25,7 @@ public final class RestoreTest {
     }
 
     private static void facts(TapeVault x, int node, int... want) {
-        for (int what = 0; what < want.length; what++) {
-            int asked = what;
-            Check.gives("node(true, " + node + ", " + what + ")", want[what], () -> x.node(true, node, asked));
-        }
+        Scenes.facts(x, true, node, want);
     }
 
     private static void counts(String what, TapeVault x, int chain, int lost, int read) {
@@ -37,23 +34,8 @@ public final class RestoreTest {
         Check.gives(what + ": BLOCKS read", read, () -> x.count(7));
     }
 
-    /**
-     * 1 a DIRECTORY (NAME 10) with the FILE 2 (NAME 20) of 72 octets in it, all 7: a DUMP of level 0 is
-     * HEAD 1, MAP 2, INDEX 3, FACTS of 0 at 4, entries 5, of 1 at 6, entries 7, of 2 at 8, octets 9, 10.
-     */
-    private static TapeVault smallVault() {
-        TapeVault x = new TapeVault();
-        x.make(0, 10, true);
-        x.make(1, 20, false);
-        for (int at = 0; at < 72; at += 8) {
-            x.write(2, at, 0x0707070707070707L);
-        }
-        x.dump(0);
-        return x;
-    }
-
     private static void promise11Whole() {
-        TapeVault x = smallVault();
+        TapeVault x = Scenes.small();
         x.write(2, 0, 0L);
         x.remove(2);
         x.remove(1);
@@ -73,7 +55,7 @@ public final class RestoreTest {
     }
 
     private static void promise11Chain() {
-        TapeVault x = smallVault();
+        TapeVault x = Scenes.small();
         x.make(0, 30, false);
         x.dump(5);
         x.write(3, 0, 1L);
@@ -103,7 +85,7 @@ public final class RestoreTest {
 
     private static void promise11Unreadable() {
         for (int block = 1; block <= 3; block++) {
-            TapeVault x = smallVault();
+            TapeVault x = Scenes.small();
             x.write(2, 0, 0L);
             x.dump(1);
             x.dump(0);
@@ -140,7 +122,7 @@ public final class RestoreTest {
     }
 
     private static void unreadableOutsideTheChain() {
-        TapeVault x = smallVault();
+        TapeVault x = Scenes.small();
         int at = x.count(4);
         x.dump(5);
         x.dump(3);
@@ -150,14 +132,14 @@ public final class RestoreTest {
     }
 
     private static void promise11SpoiledLabel() {
-        TapeVault x = smallVault();
+        TapeVault x = Scenes.small();
         x.spoil(0, 0);
         Check.gives("a SPOILED LABEL does no harm", 0, () -> x.restore(0));
         counts("restore(0)", x, 1, 0, 10);
     }
 
     private static void promise11SpoiledFacts() {
-        TapeVault x = smallVault();
+        TapeVault x = Scenes.small();
         x.spoil(0, 8);
         Check.gives("FACTS of 2", 1, () -> x.restore(0));
         facts(x, 2, 0, 0, 0, 0, 0, 1);
@@ -173,7 +155,7 @@ public final class RestoreTest {
     }
 
     private static void promise11SpoiledFactsKeepWhatWas() {
-        TapeVault x = smallVault();
+        TapeVault x = Scenes.small();
         int at = x.count(4);
         x.move(2, 0, 40);
         x.write(2, 72, 0L);
@@ -199,7 +181,7 @@ public final class RestoreTest {
     }
 
     private static void promise11SpoiledOctets() {
-        TapeVault x = smallVault();
+        TapeVault x = Scenes.small();
         x.spoil(0, 10);
         Check.gives("the second BLOCK of octets", 1, () -> x.restore(0));
         facts(x, 2, 1, 1, 20, 72, 11, 1);
@@ -229,7 +211,7 @@ public final class RestoreTest {
     }
 
     private static void promise11LostByTheLatestAlone() {
-        TapeVault x = smallVault();
+        TapeVault x = Scenes.small();
         x.write(2, 0, -1L);
         int at = x.count(4);
         x.dump(1);
@@ -251,7 +233,7 @@ public final class RestoreTest {
     }
 
     private static void promise11NotInTheMap() {
-        TapeVault x = smallVault();
+        TapeVault x = Scenes.small();
         x.remove(2);
         x.dump(1);
         x.make(1, 50, true);
@@ -269,7 +251,7 @@ public final class RestoreTest {
     }
 
     private static void promise11SpoiledLater() {
-        TapeVault x = smallVault();
+        TapeVault x = Scenes.small();
         Check.gives("restore(0)", 0, () -> x.restore(0));
         for (int block = 0; block <= 10; block++) {
             x.spoil(0, block);
@@ -284,7 +266,7 @@ public final class RestoreTest {
     }
 
     private static void promise11Wrong() {
-        TapeVault x = smallVault();
+        TapeVault x = Scenes.small();
         x.restore(0);
         for (int dump : new int[] {-1, 1, 100, Integer.MIN_VALUE, Integer.MAX_VALUE}) {
             Check.fails("restore(" + dump + ")", BOUNDS, () -> x.restore(dump));
@@ -294,7 +276,7 @@ public final class RestoreTest {
     }
 
     private static void promise12Node() {
-        TapeVault x = smallVault();
+        TapeVault x = Scenes.small();
         for (int what : new int[] {-1, 6, Integer.MIN_VALUE, Integer.MAX_VALUE}) {
             Check.fails("what " + what, ARGUMENT, () -> x.node(false, 0, what));
             Check.fails("what " + what + " comes first", ARGUMENT, () -> x.node(true, 256, what));
@@ -317,7 +299,7 @@ public final class RestoreTest {
     }
 
     private static void promise13Octet() {
-        TapeVault x = smallVault();
+        TapeVault x = Scenes.small();
         Check.fails("nothing is RESTORED", STATE, () -> x.octet(true, 2, 0));
         Check.fails("nothing is RESTORED comes first", STATE, () -> x.octet(true, -1, -1));
         x.restore(0);
@@ -337,7 +319,7 @@ public final class RestoreTest {
     }
 
     private static void promise14Find() {
-        TapeVault x = smallVault();
+        TapeVault x = Scenes.small();
         Check.fails("nothing is RESTORED", STATE, () -> x.find(true, 0, 10));
         Check.fails("nothing is RESTORED comes first", STATE, () -> x.find(true, -1, 10));
         x.restore(0);
@@ -358,7 +340,7 @@ public final class RestoreTest {
     }
 
     private static void promise15Count() {
-        TapeVault x = smallVault();
+        TapeVault x = Scenes.small();
         for (int what : new int[] {-1, 8, Integer.MIN_VALUE, Integer.MAX_VALUE}) {
             Check.fails("count(" + what + ")", ARGUMENT, () -> x.count(what));
         }

@@ -23,11 +23,7 @@ public final class TreeTest {
     }
 
     private static void facts(TapeVault x, int node, int kind, int parent, int name, int size, int stamp) {
-        int[] want = {kind, parent, name, size, stamp, 0};
-        for (int what = 0; what < want.length; what++) {
-            int asked = what;
-            Check.gives("node(false, " + node + ", " + what + ")", want[what], () -> x.node(false, node, asked));
-        }
+        Scenes.facts(x, false, node, kind, parent, name, size, stamp, 0);
     }
 
     private static void asNew(TapeVault x) {
@@ -198,19 +194,8 @@ public final class TreeTest {
         Check.gives("TIME", 6, () -> x.count(0));
     }
 
-    /** 1 and 2 in 0, 3 in 1, 4 in 3 (DIRECTORIES all), and the FILE 5 in 0. */
-    private static TapeVault deepTree() {
-        TapeVault x = new TapeVault();
-        x.make(0, 1, true);
-        x.make(0, 2, true);
-        x.make(1, 3, true);
-        x.make(3, 4, true);
-        x.make(0, 5, false);
-        return x;
-    }
-
     private static void promise6Move() {
-        TapeVault x = deepTree();
+        TapeVault x = Scenes.deep();
         Check.done("move 3 from 1 to 2", () -> x.move(3, 2, 77));
         facts(x, 3, 2, 2, 77, 1, 6);
         facts(x, 1, 2, 0, 1, 0, 6);
@@ -232,7 +217,7 @@ public final class TreeTest {
     }
 
     private static void promise6MoveWrong() {
-        TapeVault x = deepTree();
+        TapeVault x = Scenes.deep();
         for (int node : new int[] {0, 6, -1, 256, Integer.MIN_VALUE, Integer.MAX_VALUE}) {
             Check.fails("move of " + node, ARGUMENT, () -> x.move(node, 0, 9));
             if (node != 0) {
@@ -258,7 +243,7 @@ public final class TreeTest {
     }
 
     private static void promise7Remove() {
-        TapeVault x = deepTree();
+        TapeVault x = Scenes.deep();
         x.write(5, 0, -1L);
         for (int node : new int[] {0, 6, -1, 256, Integer.MIN_VALUE, Integer.MAX_VALUE}) {
             Check.fails("remove of " + node, ARGUMENT, () -> x.remove(node));
@@ -280,7 +265,7 @@ public final class TreeTest {
     }
 
     private static void stamps() {
-        TapeVault x = deepTree();
+        TapeVault x = Scenes.deep();
         x.dump(0);
         x.restore(0);
         Check.gives("dump() and restore() do not change TIME", 5, () -> x.count(0));
