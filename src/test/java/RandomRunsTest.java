@@ -1,6 +1,10 @@
 import java.util.Random;
 
-/** Runs of calls by seeds, so the same each time: the program must answer all that Model answers. */
+/**
+ * Runs of calls by seeds, so the same each time: the program must answer all that Model answers. A run uses
+ * its object for more than 512 calls, behind which the document leaves the answers free: the program counts
+ * no calls, so one object can be asked for all that it holds. BlocksAloneTest keeps to the 512.
+ */
 public final class RandomRunsTest {
     private static final int[] ODD = {-1, 256, 30001, 505, 513, 1001, Integer.MIN_VALUE, Integer.MAX_VALUE, 715827883};
 
